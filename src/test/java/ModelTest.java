@@ -4,15 +4,19 @@ import java.util.List;
 /** Holds the program against the Model on many patterns and texts. */
 public final class ModelTest {
     private static final int PATTERNS = 30000;
+    private static final String[] ALPHABETS = {"aaaab", "ab", "aaabbbc ~"};
 
     private final Dice dice;
     /** A heavy pattern is mostly of braces with high numbers, as else few are LARGE. */
     private final boolean heavy;
+    /** With few signs there are many ways through a text, and preference tells. */
+    private final String signs;
     private int groups;
 
     private ModelTest(long seed) {
         dice = new Dice(seed);
         heavy = dice.roll(4) == 0;
+        signs = ALPHABETS[dice.roll(ALPHABETS.length)];
     }
 
     public static void main(String[] args) {
@@ -27,7 +31,7 @@ public final class ModelTest {
     }
 
     private int checkOne() {
-        Model.Part pattern = choice(heavy ? 3 : dice.roll(4));
+        Model.Part pattern = choice(heavy ? 3 : 1 + dice.roll(3));
         String written = pattern.written();
         if (written.length() > 28) {
             return 0;
@@ -80,8 +84,8 @@ public final class ModelTest {
 
     private String text() {
         StringBuilder text = new StringBuilder();
-        String signs = dice.roll(2) == 0 ? "ab" : "aabbc ~";
-        for (int i = dice.roll(8); i > 0; i--) {
+        int length = dice.roll(20) == 0 ? 23 + dice.roll(8) : dice.roll(8);
+        for (int i = length; i > 0; i--) {
             text.append(dice.pick(signs));
         }
         return text.toString();
@@ -89,7 +93,7 @@ public final class ModelTest {
 
     private Model.Part choice(int depth) {
         List<Model.Part> rows = new ArrayList<>();
-        for (int i = dice.roll(3) == 0 ? dice.roll(3) + 1 : 1; i > 0; i--) {
+        for (int i = dice.roll(2) == 0 ? dice.roll(3) + 1 : 1; i > 0; i--) {
             rows.add(row(depth));
         }
         return new Model.Choice(rows);
@@ -106,7 +110,7 @@ public final class ModelTest {
     private Model.Part piece(int depth) {
         Model.Part atom = atom(depth);
         boolean sparing = dice.roll(2) == 0;
-        switch (heavy ? 3 + dice.roll(3) : dice.roll(9)) {
+        switch (heavy ? 3 + dice.roll(3) : dice.roll(10)) {
             case 0:
                 return new Model.Repeat(atom, "*", 0, 0, sparing);
             case 1:
@@ -135,7 +139,7 @@ public final class ModelTest {
             int number = groups;
             return new Model.Group(number, choice(depth - 1));
         }
-        switch (dice.roll(16)) {
+        switch (dice.roll(30)) {
             case 0:
                 return new Model.Edge("^");
             case 1:
@@ -151,7 +155,7 @@ public final class ModelTest {
             case 6:
                 return new Model.Sign("[(a c]", "(a c", false);
             default:
-                char sign = dice.pick("aaabbbc ~");
+                char sign = dice.pick(signs);
                 return new Model.Sign(String.valueOf(sign), String.valueOf(sign), false);
         }
     }

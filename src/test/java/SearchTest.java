@@ -208,6 +208,9 @@ public final class SearchTest {
         finds("(a*){3}", "aa", 1, "0-2 2-2");
         finds("(){0,2}", "a", 1, "0-0 0-0");
         finds("(){0,2}?", "a", 1, "0-0 none");
+        finds("(a|aa){0,2}?c", "aac", 1, "0-3 1-2");
+        finds("(a|aa){0,2}c", "aac", 1, "0-3 1-2");
+        finds("(aa|a){0,2}?c", "aac", 1, "0-3 0-2");
         finds("(a*)?", "b", 1, "0-0 0-0");
         finds("(a*)??", "b", 1, "0-0 none");
     }
