@@ -8,19 +8,36 @@ final class Check {
 
     private static int asked = 0;
     private static int wrong = 0;
+    private static String sentence = "";
+    private static int askedBefore = -1;
 
     private Check() {
+    }
+
+    /** Names the words of the document that the answers from here on are due by. */
+    static void sentence(String words) {
+        endSentence();
+        sentence = words;
+        askedBefore = asked;
+    }
+
+    private static void endSentence() {
+        if (askedBefore == asked) {
+            wrong++;
+            System.out.println("no answer was asked for: " + sentence);
+        }
     }
 
     static void due(String call, Object got, Object want) {
         asked++;
         if (!want.equals(got)) {
             wrong++;
-            System.out.println(call + " answered " + got + ", due is " + want);
+            System.out.println(call + " answered " + got + ", due is " + want + (sentence.isEmpty() ? "" : ", by: " + sentence));
         }
     }
 
     static void end() {
+        endSentence();
         System.out.println(asked + " answers, " + wrong + " wrong");
         if (wrong != 0 || asked == 0) {
             System.exit(1);
@@ -50,15 +67,83 @@ final class Check {
     static PatternSearch ready(String pattern, String text) {
         PatternSearch search = withPattern(pattern);
         putText(search, text);
-        if (search.compile() < 0) {
-            due("compile() of " + pattern, false, true);
-        }
+        due("compile() of " + pattern + " is done", search.compile() >= 0, true);
         return search;
+    }
+
+    static void fault(String pattern, int place) {
+        PatternSearch search = withPattern(pattern);
+        due("fault() of " + pattern, search.fault(), place);
+        due("compile() of " + pattern + " is BAD", search.compile() == BAD, place != NONE);
+        due("fault() of " + pattern + " behind compile", search.fault(), place);
+    }
+
+    static void compiles(String pattern, int groups, int size) {
+        PatternSearch search = withPattern(pattern);
+        due("compile() of " + pattern, search.compile(), groups);
+        due("state(3) of " + pattern, search.state(3), 1);
+        due("SIZE of " + pattern, search.state(4), size);
+    }
+
+    /** The pattern is put where another one was READY and has found something. */
+    static void notReady(String pattern, int answer) {
+        PatternSearch search = ready("(x)", "x");
+        search.find(0);
+        putPattern(search, pattern);
+        due("compile() of " + pattern, search.compile(), answer);
+        due("state(3) of " + pattern, search.state(3), 0);
+        due("state(4) of " + pattern, search.state(4), NONE);
+        refusesWhatNeedsAPattern(search);
+        due("compile() again of " + pattern, search.compile(), answer);
+    }
+
+    static void refusesWhatNeedsAPattern(PatternSearch search) {
+        due("no pattern READY: find(0)", search.find(0), REFUSED);
+        due("no pattern READY: group(0, false)", search.group(0, false), REFUSED);
+        due("no pattern READY: group(6, true)", search.group(6, true), REFUSED);
+        due("no pattern READY: whole(0, 0)", search.whole(0, 0), REFUSED);
+        due("no pattern READY: matches()", search.matches(), REFUSED);
+        due("no pattern READY: replace(0)", search.replace(0), REFUSED);
+    }
+
+    /** What find(0) answers and the bounds of the match and of the groups up to 'groups' behind it. */
+    static void finds(String pattern, String text, int groups, String bounds) {
+        findsFrom(0, pattern, text, groups, bounds);
+    }
+
+    static void findsFrom(int from, String pattern, String text, int groups, String bounds) {
+        PatternSearch search = ready(pattern, text);
+        int place = search.find(from);
+        String call = "find(" + from + ") of " + pattern + " in '" + text + "'";
+        due("bounds behind " + call, boundsOf(search, groups), bounds);
+        due(call, place, search.group(0, false));
+    }
+
+    /** The answers of whole(0, 0), whole(0, 1) and so on to the text's end. */
+    static void wholes(String pattern, String text, String answers) {
+        PatternSearch search = ready(pattern, text);
+        for (int to = 0; to <= text.length(); to++) {
+            due("whole(0, " + to + ") of " + pattern + " in '" + text + "'", search.whole(0, to), answers.charAt(to) - '0');
+        }
+    }
+
+    static void counts(String pattern, String text, int count) {
+        PatternSearch search = ready(pattern, text);
+        due("matches() of " + pattern + " in '" + text + "'", search.matches(), count);
+    }
+
+    static void replaces(String pattern, String text, int group, String output) {
+        PatternSearch search = ready(pattern, text);
+        String call = "replace(" + group + ") of " + pattern + " in '" + text + "'";
+        due(call, search.replace(group), output.length());
+        due("the output of " + call, outputOf(search), output);
+        due("state(2) behind " + call, search.state(2), output.length());
     }
 
     static String outputOf(PatternSearch search) {
         StringBuilder output = new StringBuilder();
-        for (int i = 0; i < search.state(2); i++) {
+        int length = search.state(2);
+        for (int i = 0; i < length; i++) {
             output.append((char) search.output(i));
         }
         return output.toString();
