@@ -248,6 +248,8 @@ public final class MatchingTest {
         Check.finds("a+?", "aaa", 0, "0-1");
         Check.finds("a+?$", "aaa", 0, "0-3");
         Check.finds("a+?b", "caab", 0, "1-4");
+        Check.finds("(a|ab)+", "aba", 1, "0-1 0-1");
+        Check.finds("(a|ab|b)+?c", "abc", 1, "0-3 1-2");
         Check.finds("(a|ab)+c", "ababc", 1, "0-5 2-4");
         Check.finds("((a+)+)+b", "aaab", 2, "0-4 0-3 0-3");
         Check.finds("((a+?)+?)+b", "aaab", 2, "0-4 2-3 2-3");
@@ -268,6 +270,9 @@ public final class MatchingTest {
                 Check.wholes(braces + "?", "aaaaaaa", "0".repeat(least) + "1".repeat(most - least + 1) + "0".repeat(7 - most));
             }
         }
+        // The times that must be come first: their ways are compared before those of the others.
+        Check.finds("(a|ab){1,2}", "aba", 1, "0-1 0-1");
+        Check.finds("(a|ab|b){1,2}?c", "abc", 1, "0-3 1-2");
         Check.finds("a{2,3}?$", "aaaa", 0, "1-4");
         Check.finds("a{0,2}b", "aaab", 0, "1-4");
         Check.finds("(a?){2,4}", "aaa", 1, "0-3 3-3");
@@ -300,6 +305,7 @@ public final class MatchingTest {
         Check.finds("((a)(b)?)+", "aba", 3, "0-3 2-3 2-3 1-2");
         Check.finds("((a)|(b)|(c))*", "abd", 4, "0-2 1-2 0-1 1-2 none");
         Check.finds("(a?){3}", "a", 1, "0-1 1-1");
+        Check.finds("((((((.))))))*", LONGEST, 6, "0-30 29-30 29-30 29-30 29-30 29-30 29-30");
     }
 
     private static void groupsWithNothing() {
@@ -377,5 +383,6 @@ public final class MatchingTest {
         Check.counts("", "a".repeat(30), 31);
         Check.counts(".*", "a".repeat(30), 2);
         Check.counts(".+", "a".repeat(30), 1);
+        Check.replaces("^", "ab", 1, "ab");
     }
 }

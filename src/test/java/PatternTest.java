@@ -224,6 +224,11 @@ public final class PatternTest {
         Check.compiles("(a{5,6}b*c|d){6}(^){6}", 2, 120);
         Check.notReady("(a{5,6}b*c|d){6}(^){6}xyz", Check.LARGE);
         Check.compiles("(((((a{6}){6}){2})))", 5, 106);
+        // As large as can be, and each part of it is needed for the match.
+        Check.compiles("(.{2}(){6}){6}(.{6}){3}", 3, 120);
+        Check.finds("(.{2}(){6}){6}(.{6}){3}", "a".repeat(30), 3, "0-30 10-12 12-12 24-30");
+        Check.compiles("(^{6}^{6}^{6}^{6}^{4}){4}", 1, 120);
+        Check.finds("(^{6}^{6}^{6}^{6}^{4}){4}", "a", 1, "0-0 0-0");
         Check.notReady("(((((a{6}){6}){3})))", Check.LARGE);
         Check.notReady("((((a{6}){6}){6}){6}){6}", Check.LARGE);
         Check.notReady("((((a{6}){6}){6}){0,6}){0,6}", Check.LARGE);

@@ -223,6 +223,10 @@ public final class SearchTest {
         search.compile();
         search.find(0);
         Check.due("bounds of none", Check.boundsOf(search, 6), "2-3 none none none none none none");
+        Check.putPattern(search, "a?b*c+?d{0,2}(|x)e?|f|b|c|d?");
+        search.compile();
+        search.find(0);
+        Check.due("bounds of one behind many", Check.boundsOf(search, 6), "0-5 4-4 none none none none none");
     }
 
     private static void groupThatCaughtNothing() {

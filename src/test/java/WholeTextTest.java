@@ -156,6 +156,9 @@ public final class WholeTextTest {
         Check.replaces("b*", "abba", 0, "abba");
         Check.replaces(".", LONGEST, 0, LONGEST);
         Check.replaces("", LONGEST, 0, LONGEST);
+        Check.replaces("^", "ab", 0, "ab");
+        Check.replaces("$", "ab", 0, "ab");
+        Check.replaces("^a?", "ab", 0, "ab");
         Check.replaces("a", "", 0, "");
     }
 
